@@ -13,20 +13,9 @@ public final class ProofTest {
         due.end();
     }
 
-    private static ElCompletion made(int classes, int[][] axioms) {
-        ElCompletion x = new ElCompletion();
-        for (int a = 2; a < classes; a++) {
-            x.grow();
-        }
-        for (int[] n : axioms) {
-            x.axiom(n[0], n[1], n[2], n[3]);
-        }
-        return x;
-    }
-
     /** 2 has a 0 in 3, 3 is below 4: the second premise has the lesser code but the same round. */
     private static ElCompletion small() {
-        return made(6, new int[][] {{3, 2, 0, 3}, {1, 3, 4, 0}, {4, 0, 4, 5}, {1, 5, 1, 0}});
+        return Make.made(6, new int[][] {{3, 2, 0, 3}, {1, 3, 4, 0}, {4, 0, 4, 5}, {1, 5, 1, 0}});
     }
 
     private static void rowsByRoundsThenCodes() {
@@ -37,12 +26,12 @@ public final class ProofTest {
     }
 
     private static void sharedPremisesOnce() {
-        ElCompletion x = made(7, new int[][] {{1, 2, 3, 0}, {1, 3, 4, 0}, {1, 3, 5, 0}, {2, 4, 5, 6}});
+        ElCompletion x = Make.made(7, new int[][] {{1, 2, 3, 0}, {1, 3, 4, 0}, {1, 3, 5, 0}, {2, 4, 5, 6}});
         due.proof("shared:", x, 54, 50, 51, 52, 53, 54);
     }
 
     private static void factsOfRoundZero() {
-        ElCompletion x = made(3, new int[][] {{7, 5, 0, 0}});
+        ElCompletion x = Make.made(3, new int[][] {{7, 5, 0, 0}});
         due.proof("round 0:", x, 0, 0);
         due.proof("round 0:", x, 48, 48);
         due.proof("round 0:", x, 576 + 24 * 17 + 2, 576 + 24 * 17 + 2);
@@ -79,7 +68,7 @@ public final class ProofTest {
     }
 
     private static void aFactTakesOnlyItsReason() {
-        ElCompletion x = made(6, new int[][] {{2, 2, 0, 3}, {1, 2, 3, 0}, {1, 2, 4, 0}, {1, 4, 3, 0}});
+        ElCompletion x = Make.made(6, new int[][] {{2, 2, 0, 3}, {1, 2, 3, 0}, {1, 2, 4, 0}, {1, 4, 3, 0}});
         due.proof("reason alone:", x, 51, 48, 50, 51);
         x.drop(0);
         due.proof("the other reason:", x, 51, 50, 51);

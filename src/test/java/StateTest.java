@@ -19,14 +19,6 @@ public final class StateTest {
         due.end();
     }
 
-    private static ElCompletion withClasses(int count) {
-        ElCompletion x = new ElCompletion();
-        for (int a = 2; a < count; a++) {
-            x.grow();
-        }
-        return x;
-    }
-
     private static void constants() {
         due.is("BAD", ElCompletion.BAD, -1);
         due.is("FULL", ElCompletion.FULL, -2);
@@ -63,7 +55,7 @@ public final class StateTest {
     }
 
     private static void axiomNumbers() {
-        ElCompletion x = withClasses(4);
+        ElCompletion x = Make.made(4);
         due.is("axiom 1 A B", x.axiom(1, 2, 3, 0), 0);
         due.is("axiom 2 A B C", x.axiom(2, 2, 3, 1), 1);
         due.is("axiom 3 A r B", x.axiom(3, 3, 5, 3), 2);
@@ -100,7 +92,7 @@ public final class StateTest {
 
     /** With 8 classes and 6 roles the two are told apart by 6 and 7. */
     private static void onePlace(int kind, int place, int end) {
-        ElCompletion x = withClasses(8);
+        ElCompletion x = Make.made(8);
         int[] n = new int[3];
         for (int value = 0; value < end; value++) {
             n[place] = value;
@@ -114,7 +106,7 @@ public final class StateTest {
 
     private static void axiomPlacesNotLookedAt() {
         for (int far : FAR) {
-            ElCompletion x = withClasses(4);
+            ElCompletion x = Make.made(4);
             due.is("1 A B with " + far, x.axiom(1, 2, 3, far), 0);
             due.is("5 r s with " + far, x.axiom(5, 0, 1, far), 1);
             due.is("7 r with " + far, x.axiom(7, 0, far, far), 2);
@@ -128,7 +120,7 @@ public final class StateTest {
     }
 
     private static void axiomsFull() {
-        ElCompletion x = withClasses(4);
+        ElCompletion x = Make.made(4);
         for (int k = 0; k < 79; k++) {
             due.is("axiom " + k, x.axiom(7, 0, 0, 0), k);
         }
@@ -146,7 +138,7 @@ public final class StateTest {
     }
 
     private static void drop() {
-        ElCompletion x = withClasses(6);
+        ElCompletion x = Make.made(6);
         x.axiom(1, 2, 3, 0);
         x.axiom(3, 2, 1, 4);
         x.axiom(4, 1, 4, 5);
@@ -170,7 +162,7 @@ public final class StateTest {
     }
 
     private static void dropOfWrongNumbers() {
-        ElCompletion x = withClasses(4);
+        ElCompletion x = Make.made(4);
         x.axiom(1, 2, 3, 0);
         for (int far : FAR) {
             due.is("drop(" + far + ")", x.drop(far), BAD);
@@ -181,8 +173,8 @@ public final class StateTest {
     }
 
     private static void objectsAreApart() {
-        ElCompletion x = withClasses(4);
-        ElCompletion y = withClasses(3);
+        ElCompletion x = Make.made(4);
+        ElCompletion y = Make.made(3);
         x.axiom(1, 2, 3, 0);
         due.is("y has no axiom", y.axiom(1, 0, 2, 0), 0);
         due.is("y has no class 3", y.sub(2, 3), BAD);

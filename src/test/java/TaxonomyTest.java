@@ -18,19 +18,8 @@ public final class TaxonomyTest {
         due.end();
     }
 
-    private static ElCompletion made(int classes, int[][] axioms) {
-        ElCompletion x = new ElCompletion();
-        for (int a = 2; a < classes; a++) {
-            x.grow();
-        }
-        for (int[] n : axioms) {
-            x.axiom(n[0], n[1], n[2], n[3]);
-        }
-        return x;
-    }
-
     private static void empty() {
-        ElCompletion x = made(6, new int[][] {{3, 2, 0, 3}, {2, 3, 4, 1}, {1, 3, 4, 0}});
+        ElCompletion x = Make.made(6, new int[][] {{3, 2, 0, 3}, {2, 3, 4, 1}, {1, 3, 4, 0}});
         due.is("empty(0)", x.empty(0), 0);
         due.is("empty(1)", x.empty(1), 1);
         due.is("empty(2)", x.empty(2), 1);
@@ -43,7 +32,7 @@ public final class TaxonomyTest {
     }
 
     private static void same() {
-        ElCompletion x = made(7, new int[][] {{1, 5, 3, 0}, {1, 3, 6, 0}, {1, 6, 5, 0}, {1, 2, 3, 0}});
+        ElCompletion x = Make.made(7, new int[][] {{1, 5, 3, 0}, {1, 3, 6, 0}, {1, 6, 5, 0}, {1, 2, 3, 0}});
         due.is("same(2)", x.same(2), 2);
         due.is("same(3)", x.same(3), 3);
         due.is("same(4)", x.same(4), 4);
@@ -55,7 +44,7 @@ public final class TaxonomyTest {
     }
 
     private static void parentsOfAChain() {
-        ElCompletion x = made(5, new int[][] {{1, 2, 3, 0}, {1, 3, 4, 0}, {1, 2, 4, 0}});
+        ElCompletion x = Make.made(5, new int[][] {{1, 2, 3, 0}, {1, 3, 4, 0}, {1, 2, 4, 0}});
         due.parents("chain:", x, 2, 3);
         due.parents("chain:", x, 3, 4);
         due.parents("chain:", x, 4, 0);
@@ -64,7 +53,7 @@ public final class TaxonomyTest {
     }
 
     private static void parentsOfADiamond() {
-        ElCompletion x = made(7, new int[][] {{1, 2, 5, 0}, {1, 2, 3, 0}, {1, 5, 4, 0}, {1, 3, 4, 0}, {1, 2, 6, 0}});
+        ElCompletion x = Make.made(7, new int[][] {{1, 2, 5, 0}, {1, 2, 3, 0}, {1, 5, 4, 0}, {1, 3, 4, 0}, {1, 2, 6, 0}});
         due.parents("diamond:", x, 2, 3, 5, 6);
         due.parents("diamond:", x, 3, 4);
         due.parents("diamond:", x, 5, 4);
@@ -72,13 +61,13 @@ public final class TaxonomyTest {
     }
 
     private static void parentsOfSameClasses() {
-        ElCompletion x = made(6, new int[][] {{1, 2, 5, 0}, {1, 5, 2, 0}, {1, 2, 3, 0}, {1, 5, 4, 0}});
+        ElCompletion x = Make.made(6, new int[][] {{1, 2, 5, 0}, {1, 5, 2, 0}, {1, 2, 3, 0}, {1, 5, 4, 0}});
         due.parents("of same classes:", x, 2, 3, 4);
         due.parents("of same classes:", x, 5, 3, 4);
     }
 
     private static void parentsAreLeastNumbers() {
-        ElCompletion x = made(7, new int[][] {{1, 2, 5, 0}, {1, 5, 4, 0}, {1, 4, 5, 0}, {1, 5, 3, 0}, {1, 3, 6, 0}, {1, 6, 3, 0}});
+        ElCompletion x = Make.made(7, new int[][] {{1, 2, 5, 0}, {1, 5, 4, 0}, {1, 4, 5, 0}, {1, 5, 3, 0}, {1, 3, 6, 0}, {1, 6, 3, 0}});
         due.parents("least numbers:", x, 2, 4);
         due.parents("least numbers:", x, 4, 3);
         due.parents("least numbers:", x, 5, 3);
@@ -87,14 +76,14 @@ public final class TaxonomyTest {
     }
 
     private static void classesTheSameAsTop() {
-        ElCompletion x = made(4, new int[][] {{1, 0, 2, 0}});
+        ElCompletion x = Make.made(4, new int[][] {{1, 0, 2, 0}});
         due.is("same(2) as TOP", x.same(2), 0);
         due.parents("the same as TOP:", x, 2);
         due.parents("below TOP and its same:", x, 3, 0);
     }
 
     private static void emptyClassesHaveNoParents() {
-        ElCompletion x = made(4, new int[][] {{1, 2, 3, 0}, {1, 2, 1, 0}});
+        ElCompletion x = Make.made(4, new int[][] {{1, 2, 3, 0}, {1, 2, 1, 0}});
         due.is("empty(2)", x.empty(2), 1);
         due.parents("empty:", x, 2);
         due.parents("not empty:", x, 3, 0);
@@ -103,7 +92,7 @@ public final class TaxonomyTest {
     }
 
     private static void everythingEmpty() {
-        ElCompletion x = made(4, new int[][] {{1, 0, 1, 0}});
+        ElCompletion x = Make.made(4, new int[][] {{1, 0, 1, 0}});
         due.is("all empty: empty(0)", x.empty(0), 1);
         due.is("all empty: same(1)", x.same(1), 0);
         due.is("all empty: same(3)", x.same(3), 3);
@@ -113,7 +102,7 @@ public final class TaxonomyTest {
     }
 
     private static void wrongArguments() {
-        ElCompletion x = made(4, new int[][] {{1, 2, 3, 0}});
+        ElCompletion x = Make.made(4, new int[][] {{1, 2, 3, 0}});
         for (int a : new int[] {4, 5, 24, 4032, FAR[0], FAR[1], FAR[2]}) {
             due.is("empty(" + a + ")", x.empty(a), BAD);
             due.is("same(" + a + ")", x.same(a), BAD);
