@@ -17,6 +17,7 @@ public final class FaceTest {
     private static final Due due = new Due();
 
     public static void main(String[] args) {
+        due.sentence("The public face, and nothing else that is not private");
         Class<?> face = ElCompletion.class;
         due.is("public and final", face.getModifiers(), Modifier.PUBLIC | Modifier.FINAL);
         due.is("constructors", face.getDeclaredConstructors().length, 1);

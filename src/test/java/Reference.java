@@ -146,6 +146,10 @@ final class Reference {
         return i < 0 || i >= rows.size() ? -1 : rows.get(i);
     }
 
+    int rowCount() {
+        return rows.size();
+    }
+
     int empty(int a) {
         return sub(a, 1);
     }
