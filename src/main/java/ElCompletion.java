@@ -139,7 +139,10 @@ public final class ElCompletion {
 
     /** Promise 13. */
     public int empty(int a) {
-        return sub(a, BOTTOM);
+        if (!isClass(a)) {
+            return BAD;
+        }
+        return closed().has(a, BOTTOM) ? 1 : 0;
     }
 
     /** Promise 14. */

@@ -85,11 +85,19 @@ public final class ReferenceTest {
     }
 
     private int aClass() {
-        return random.nextInt(60) == 0 ? random.nextInt(60) - 20 : random.nextInt(classes);
+        return random.nextInt(50) == 0 ? aWrongNumber() : random.nextInt(classes);
     }
 
     private int aRole() {
-        return random.nextInt(60) == 0 ? random.nextInt(60) - 20 : random.nextInt(random.nextBoolean() ? 3 : 6);
+        return random.nextInt(50) == 0 ? aWrongNumber() : random.nextInt(random.nextBoolean() ? 3 : 6);
+    }
+
+    /** Near those that there are (it may hit one), or far from all. */
+    private int aWrongNumber() {
+        if (random.nextInt(3) > 0) {
+            return random.nextInt(60) - 20;
+        }
+        return TestBase.NEVER[random.nextInt(TestBase.NEVER.length)];
     }
 
     private int aCode() {
